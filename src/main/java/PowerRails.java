@@ -1526,13 +1526,12 @@ public final class PowerRails {
             return found;
         }
 
+        /** As all that are left fit within the heat somehow, each free one fits here: only the others are in question. */
         private static int firstThatFits(Board board, int left, int heat) {
             Plan plan = board.plan;
-            int ahead = loads(board, plan.allRails() & ~left);
             for (int i = 0; i < plan.rails; i++) {
                 boolean free = ((left >> i) & 1) != 0 && (plan.direct[i] & left) == 0;
-                if (free && ahead + board.rails[i].load + plan.surge(i) <= heat
-                        && leastHeat(board, left & ~(1 << i)) <= heat) {
+                if (free && leastHeat(board, left & ~(1 << i)) <= heat) {
                     return i;
                 }
             }

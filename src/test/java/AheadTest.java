@@ -48,6 +48,10 @@ public final class AheadTest {
         due("no heat", x.heat(), -2);
         due("no such place of an order goes first", x.order(4), -1);
         due("order(-1)", x.order(-1), -1);
+        x = Checks.told(rails("abc") + "needs a b;needs b c;needs c b;");
+        ringIs(x, 1, 2);
+        due("a lies in none", x.never(0), 6);
+        due("but hangs on one", x.never(1), 7);
         // A ring of all twelve.
         StringBuilder needs = new StringBuilder(rails("abcdefghijkl"));
         for (int k = 0; k < 12; k++) {
@@ -86,6 +90,16 @@ public final class AheadTest {
         due("order(1)", x.order(1), 1);
         due("order(2)", x.order(2), 3);
         due("order(3)", x.order(3), 2);
+        StringBuilder all = new StringBuilder();
+        for (char c = 'a'; c <= 'l'; c++) {
+            all.append("rail ").append(c).append(" source 16 16 ").append(c - 'a').append(" 1 9;");
+        }
+        x = Checks.told(all.toString());
+        due("heat of twelve: the greatest surge first", x.heat(), 12);
+        int[] twelve = {11, 10, 9, 8, 7, 6, 5, 4, 3, 2, 1, 0};
+        for (int k = 0; k < 12; k++) {
+            due("order(" + k + ") of twelve", x.order(k), twelve[k]);
+        }
         // Downwards: 5 times 7 by 16.
         due("heat downwards", Checks.told("rail a source 9 7 5 1 9;").heat(), 3);
         due("heat of a ramp above its level", Checks.told("rail a source 7 9 5 1 9;").heat(), 3);
@@ -164,6 +178,11 @@ public final class AheadTest {
         due("now", x.quiet(), 0);
         x.ask(0, true);
         due("both go: falls in 1 and 2, off in 3", x.quiet(), 3);
+        x = Checks.told("rail a source 10 10 0 0 9;");
+        x.ask(0, false);
+        x.tick(1);
+        x.ask(0, true);
+        due("one is in the row", x.quiet(), 2);
         x = Checks.told("rail a source 100 10 0 10 9;droop 10;low 1;");
         x.ask(0, false);
         due("never at its level for long", x.quiet(), 10);
@@ -224,9 +243,17 @@ public final class AheadTest {
         due("41 is for both, but b, in the row, trips no more", x.ifLoad(1, 41), 1);
         due("of a alone", x.ifLoad(0, 41), 1);
         due("of c", x.ifLoad(2, 9999), 4);
+        due("0 is a load", x.ifLoad(0, 0), 0);
         due("below 0", x.ifLoad(0, -1), -1);
         due("above 9999", x.ifLoad(0, 10000), -1);
         due("load stays", Checks.rail(x, 1, 4), 10);
+        // Over in its first tick, low in the one behind it.
+        x = Checks.told("rail a source 10 10 0 1 5;wait 98;on a;");
+        x.begin();
+        due("a trip in the 100th tick", x.ifLoad(0, 9), 1);
+        x = Checks.told("rail a source 10 10 0 1 5;wait 99;on a;");
+        x.begin();
+        due("one in the 101st", x.ifLoad(0, 9), 0);
     }
 
     private static void ifOff() {

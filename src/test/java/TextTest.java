@@ -142,6 +142,43 @@ public final class TextTest {
         due("fall is 500 again", Checks.rail(x, 0, 6), 0);
     }
 
+    /** Whatever was told and went by ahead of it, a new text gives what it gives in a new object. */
+    private static void asInANewObject() {
+        String full = "rail a source 1000 300 16 100 80;rail b a 1000 500 0 50 999;needs b a;droop 150;filter 2;"
+            + "retry 2 4;fall 90;low 80;budget 500;seed 5;on a;guard a 9;on b;wait 9;";
+        String bare = "rail a source 1000 999 16 100 80;rail b source 1000 900 0 50 40;rail c b 5 5 5 5 5;on a;on b;on c;";
+        PowerRails x = Checks.told(full);
+        for (int round = 0; round < 6; round++) {
+            x.begin();
+            x.tick(2 + 5 * round);
+            x.ask(1, false);
+            x.ask(0, round % 2 == 0);
+            String text = round % 3 == 0 ? bare : full;
+            PowerRails fresh = Checks.told(text);
+            due("a text behind others", Checks.tell(x, text), text.length() - text.replace(";", "").length());
+            for (int k = 0; k < 12; k++) {
+                due("as in a new object", Checks.picture(x).equals(Checks.picture(fresh)) ? 1 : 0, 1);
+                due("chance as there", x.chance(-1, 9, 500, 0), fresh.chance(-1, 9, 500, 0));
+                due("begin as there", x.begin(), fresh.begin());
+                due("tick as there", x.tick(k), fresh.tick(k));
+            }
+        }
+        due("no rails", x.text(0), 0);
+        due("no needs", x.count(1), 0);
+        due("no steps", x.count(2), 0);
+    }
+
+    private static void longTokens() {
+        PowerRails x = new PowerRails();
+        due("700 blanks", Checks.tell(x, " ".repeat(700)), 0);
+        due("700 letters", Checks.tell(x, "a".repeat(700)), -1);
+        due("their place", x.fault(1), 0);
+        due("a number of many digits", Checks.tell(x, "wait" + "0".repeat(694) + "9;"), 1);
+        due("it is 9", x.step(0, 2), 9);
+        due("one as long, too much", Checks.tell(x, "wait" + "9".repeat(695) + ";"), -1);
+        due("its fault", x.fault(0), 2);
+    }
+
     private static void wrongTokens() {
         Checks.faulty(";", 1, 0);
         Checks.faulty("a", 1, 0);
@@ -244,6 +281,7 @@ public final class TextTest {
     private static void toldAlready() {
         Checks.faulty(RAIL + "rail a a 1 1 1 1 1;", 3, 31);
         Checks.faulty(RAIL + "rail b source 1 1 0 0 1;needs a b;needs b a;needs a b;", 3, 26 + 24 + 20 + 8);
+        Checks.faulty(RAIL + "rail b source 1 1 0 0 1;needs b a;needs b a;", 3, 26 + 24 + 10 + 8);
         String[] settings = {"droop 1;", "fall 1;", "low 1;", "filter 1;", "retry 1 1;", "budget 1;", "seed 1;"};
         for (String one : settings) {
             Checks.faulty(one + one, 3, one.length());
@@ -271,6 +309,8 @@ public final class TextTest {
         emptyTexts();
         lines();
         newText();
+        asInANewObject();
+        longTokens();
         wrongTokens();
         moreMustCome();
         tooMuch();

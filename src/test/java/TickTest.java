@@ -264,6 +264,75 @@ public final class TickTest {
         lined(x, "the row has the other", true, 4);
     }
 
+    /** Rails whose numbers don't go the way of their needs; all twelve at once. */
+    private static void unwindingUpwards() {
+        PowerRails x = Checks.told("rail a source 10 10 0 1 99;rail b source 10 10 0 1 99;needs a b;");
+        x.ask(0, false);
+        x.ask(1, false);
+        x.tick(3);
+        x.ask(1, true);
+        lined(x, "a began behind b", true, 0, 1);
+        StringBuilder all = new StringBuilder();
+        for (char c = 'a'; c <= 'l'; c++) {
+            all.append("rail ").append(c).append(" source 10 10 0 1 99;");
+        }
+        x = Checks.told(all + "on a;".repeat(23) + "guard a 1;");
+        for (int i = 11; i >= 0; i--) {
+            x.ask(i, false);
+        }
+        lined(x, "twelve", false, 11, 10, 9, 8, 7, 6, 5, 4, 3, 2, 1, 0);
+        x.tick(1);
+        lined(x, "all rise in one tick", false);
+        due("all are up", x.count(6), 12);
+        x.begin();
+        x.tick(1);
+        due("24 steps in one tick", x.sequence(0), 2);
+        x.ask(5, true);
+        x.begin();
+        x.tick(2);
+        due("f is off", Checks.rail(x, 5, 6), OFF);
+        for (int i = 0; i < 12; i++) {
+            x.ask(i, true);
+        }
+        lined(x, "in the order of asking", true, 0, 1, 2, 3, 4, 6, 7, 8, 9, 10, 11);
+    }
+
+    /** What holds where the text doesn't say otherwise. */
+    private static void settingsUntold() {
+        PowerRails x = Checks.told("rail a source 1000 1000 0 100 99;");
+        x.ask(0, false);
+        x.tick(2);
+        stands(x, "droop is 50", 0, UP, 950, 95);
+        x.load(0, 9999);
+        x.tick(1);
+        stands(x, "950 was not over", 0, UP, 1000, 9999);
+        x.tick(2);
+        stands(x, "low is 90: 900 is good", 0, UP, 900, 8999);
+        due("no trip", x.count(7), 0);
+        x.tick(1);
+        stands(x, "filter is 1", 0, FALLS, 850, 8499);
+        x.tick(1);
+        stands(x, "fall is 500", 0, FALLS, 350, 0);
+        x.tick(1);
+        due("retry is 0 times", Checks.rail(x, 0, 14), -2);
+        StringBuilder all = new StringBuilder();
+        for (char c = 'a'; c <= 'l'; c++) {
+            all.append("rail ").append(c).append(" source 10 10 0 1 99999;");
+        }
+        x = Checks.told(all.toString());
+        for (int i = 0; i < 12; i++) {
+            x.ask(i, false);
+            x.load(i, i < 10 ? 9999 : 0);
+        }
+        x.load(10, 9);
+        x.tick(1);
+        due("total", x.total(), 99999);
+        due("budget is 99999", x.count(7), 0);
+        x.load(10, 10);
+        x.tick(1);
+        due("100000 are above it", x.count(7), 1);
+    }
+
     /** A rail that only waits takes nothing that hangs on it along. */
     private static void askedOffWhileItWaits() {
         PowerRails x = Checks.told("rail a source 10 10 0 1 99;rail b a 10 10 0 1 99;rail c source 10 10 0 1 99;needs a c;");
@@ -490,6 +559,8 @@ public final class TickTest {
         sag();
         filter();
         unwinding();
+        unwindingUpwards();
+        settingsUntold();
         askedOffWhileItWaits();
         twoTripsInOneTick();
         budget();
