@@ -1497,7 +1497,7 @@ public final class PowerRails {
         static int leastHeat(Board board, int set) {
             Plan plan = board.plan;
             int left = set;
-            int sum = loads(board, plan.allRails());
+            int sum = allLoads(board);
             int heat = 0;
             for (int k = 0; k < MOST_RAILS && left != 0; k++) {
                 int last = leastSurge(plan, left & ~plan.directOfAll(left));
@@ -1548,12 +1548,10 @@ public final class PowerRails {
             return least;
         }
 
-        private static int loads(Board board, int set) {
+        private static int allLoads(Board board) {
             int sum = 0;
             for (int i = 0; i < board.plan.rails; i++) {
-                if (((set >> i) & 1) != 0) {
-                    sum += board.rails[i].load;
-                }
+                sum += board.rails[i].load;
             }
             return sum;
         }

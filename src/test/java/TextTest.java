@@ -150,9 +150,10 @@ public final class TextTest {
         PowerRails x = Checks.told(full);
         for (int round = 0; round < 6; round++) {
             x.begin();
-            x.tick(2 + 5 * round);
+            x.tick(5);
             x.ask(1, false);
             x.ask(0, round % 2 == 0);
+            x.tick(1 + 5 * round);
             String text = round % 3 == 0 ? bare : full;
             PowerRails fresh = Checks.told(text);
             due("a text behind others", Checks.tell(x, text), text.length() - text.replace(";", "").length());
