@@ -1142,6 +1142,8 @@ public final class PowerRails {
             Rail r = rails[i];
             r.again = OTHER;
             r.retries = 0;
+            // It may be in the row or fall by its own trip: what has been asked since counts, not that trip.
+            r.wentByTrip = false;
             if (!off) {
                 waitIfOff(i);
             } else if (r.state == WAITS) {

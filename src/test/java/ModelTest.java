@@ -91,6 +91,7 @@ public final class ModelTest {
             MRail r = rails.get(i);
             r.again = -2;
             r.retries = 0;
+            r.tripped = false;
             if (!off && r.state == 0) {
                 r.state = 1;
                 waiting.add(i);

@@ -463,6 +463,63 @@ public final class TickTest {
         due("not to come again", rail(x, 0, 14), -2);
     }
 
+    /** Whoever asks decides anew: the trip that lies ahead of it brings nothing back, wherever the rail is by then. */
+    private static void askedBehindItsTrip() {
+        for (int how = 0; how < 4; how++) {
+            boolean off = how % 2 == 1;
+            boolean byStep = how >= 2;
+            String when = (off ? "asked off" : "asked on") + (byStep ? " by a step" : "");
+            PowerRails x = Checks.told("rail a source 1000 1000 0 100 50;droop 300;fall 300;retry 2 3;"
+                + (off ? "off a;" : "on a;"));
+            x.ask(0, false);
+            x.tick(2);
+            due(when + ": it falls", rail(x, 0, 6), FALLS);
+            due(when + ": not asked it comes again", x.ahead(0, 3 + 3, 0), UP);
+            if (byStep) {
+                due(when + ": begin", x.begin(), 1);
+            } else {
+                due(when + ": it falls on", x.ask(0, off), FALLS);
+            }
+            x.tick(3);
+            stands(x, when, 0, OFF, 0, 0);
+            due(when + ": not to come again", rail(x, 0, 14), -2);
+            due(when + ": quiet", x.quiet(), 0);
+            due(when + ": off for good", x.ahead(0, 300, 0), OFF);
+            x.ask(0, false);
+            x.tick(5);
+            stands(x, when + ", on once more", 0, OFF, 0, 0);
+            due(when + ": the next trip brings it again", rail(x, 0, 14), 3);
+        }
+    }
+
+    /** b trips, c that hangs on it goes first: b is in the row while it is asked, or a is, on which it hangs. */
+    private static void askedInTheRow() {
+        for (int how = 0; how < 3; how++) {
+            PowerRails x = Checks.told("rail a source 1000 1000 0 0 99;rail b a 1000 1000 0 0 50;"
+                + "rail c b 10 10 0 0 9;filter 2;low 80;droop 300;fall 9999;retry 2 7;");
+            x.ask(0, false);
+            x.ask(1, false);
+            x.ask(2, false);
+            x.tick(3);
+            x.load(1, 90);
+            x.limit(0, 999);
+            x.tick(3);
+            due("b trips", rail(x, 1, 12), 1);
+            lined(x, "c falls, b is behind it", true, 1);
+            due("b is up", how < 2 ? x.ask(1, how == 1) : rail(x, 1, 6), UP);
+            if (how == 2) {
+                due("a is up", x.ask(0, true), UP);
+                lined(x, "a comes behind b", true, 1, 0);
+            } else {
+                lined(x, "b stays in the row", true, 1);
+            }
+            x.tick(2);
+            stands(x, "how " + how, 1, OFF, 0, 0);
+            due("b asked itself isn't to come again: how " + how, rail(x, 1, 14), how == 2 ? 7 : -2);
+            due("c isn't", rail(x, 2, 14), -2);
+        }
+    }
+
     private static void sequence() {
         PowerRails x = Checks.told("rail a source 10 10 0 1 99;rail b source 20 10 0 1 99;"
             + "on a;wait 2;on b;guard b 5;off a;wait 1;");
@@ -566,6 +623,8 @@ public final class TickTest {
         budget();
         retries();
         noRetryOfOthers();
+        askedBehindItsTrip();
+        askedInTheRow();
         sequence();
         guardFails();
         log();
