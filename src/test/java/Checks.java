@@ -80,6 +80,36 @@ final class Checks {
         }
     }
 
+    /** State, volts and draw of a rail. */
+    static void stands(PowerRails x, String when, int i, int state, int volts, int draw) {
+        due(when + ": state of " + i, rail(x, i, 6), state);
+        due(when + ": volts of " + i, rail(x, i, 7), volts);
+        due(when + ": draw of " + i, rail(x, i, 8), draw);
+    }
+
+    /** The rails that wait, or those of the row, and nothing behind them. */
+    static void lined(PowerRails x, String when, boolean row, int... rails) {
+        for (int k = 0; k < rails.length; k++) {
+            due(when + ": waiting(" + k + ", " + row + ")", x.waiting(k, row), rails[k]);
+        }
+        due(when + ": behind the last of waiting(k, " + row + ")", x.waiting(rails.length, row), -2);
+        due(when + ": how many, row " + row, x.count(row ? 5 : 4), rails.length);
+    }
+
+    /** The latest entries of the log, the latest first: tick, rail, what of each. */
+    static void logged(PowerRails x, String when, int... entries) {
+        for (int k = 0; k < entries.length; k++) {
+            due(when + ": log(" + k / 3 + ", " + k % 3 + ")", x.log(k / 3, k % 3), entries[k]);
+        }
+    }
+
+    /** Lets more ticks go by than one call takes. */
+    static void pass(PowerRails x, int ticks) {
+        for (int left = ticks; left > 0; left -= 50) {
+            x.tick(Math.min(left, 50));
+        }
+    }
+
     /** Each answer that stands in an object, without any that looks ahead, as one text. */
     static String picture(PowerRails x) {
         StringBuilder all = new StringBuilder();
@@ -113,5 +143,32 @@ final class Checks {
             all.append("\nlog ").append(x.log(k, 0)).append(' ').append(x.log(k, 1)).append(' ').append(x.log(k, 2));
         }
         return all.toString();
+    }
+
+    /** All that an object answers, what it keeps beside the rails and what is ahead of it with it, as one text. */
+    static String whole(PowerRails x) {
+        StringBuilder all = new StringBuilder(picture(x));
+        all.append("\nundone ").append(x.count(9)).append(" tape ").append(x.count(10));
+        all.append(" fault ").append(x.fault(0)).append(' ').append(x.fault(1));
+        all.append("\nahead ").append(x.quiet()).append(' ').append(x.heat()).append(' ').append(x.bestOff(9));
+        for (int n : new int[] {1, 2, 3, 9, 100}) {
+            all.append(' ').append(x.peak(n)).append(' ').append(x.chance(-1, n, 99, 0));
+            for (int i = 0; i < x.count(0); i++) {
+                for (int what = 0; what < 4; what++) {
+                    all.append(' ').append(x.ahead(i, n, what));
+                }
+            }
+        }
+        for (int k = 0; k < x.count(2); k++) {
+            all.append("\nstep ").append(x.step(k, 0)).append(' ').append(x.step(k, 1)).append(' ').append(x.step(k, 2));
+        }
+        return all.toString();
+    }
+
+    static void same(String when, String got, String want) {
+        due(when + ": all as it was", got.equals(want) ? 1 : 0, 1);
+        if (!got.equals(want)) {
+            System.out.println("got\n" + got + "\nwant\n" + want);
+        }
     }
 }

@@ -15,25 +15,15 @@ public final class TickTest {
     }
 
     private static void stands(PowerRails x, String when, int i, int state, int volts, int draw) {
-        due(when + ": state of " + i, rail(x, i, 6), state);
-        due(when + ": volts of " + i, rail(x, i, 7), volts);
-        due(when + ": draw of " + i, rail(x, i, 8), draw);
+        Checks.stands(x, when, i, state, volts, draw);
     }
 
-    /** The rails that wait, or those of the row, and nothing behind them. */
     private static void lined(PowerRails x, String when, boolean row, int... rails) {
-        for (int k = 0; k < rails.length; k++) {
-            due(when + ": waiting(" + k + ", " + row + ")", x.waiting(k, row), rails[k]);
-        }
-        due(when + ": behind the last of waiting(k, " + row + ")", x.waiting(rails.length, row), -2);
-        due(when + ": how many, row " + row, x.count(row ? 5 : 4), rails.length);
+        Checks.lined(x, when, row, rails);
     }
 
-    /** The latest entries of the log, the latest first: tick, rail, what of each. */
     private static void logged(PowerRails x, String when, int... entries) {
-        for (int k = 0; k < entries.length; k++) {
-            due(when + ": log(" + k / 3 + ", " + k % 3 + ")", x.log(k / 3, k % 3), entries[k]);
-        }
+        Checks.logged(x, when, entries);
     }
 
     private static void refusals() {
