@@ -212,6 +212,33 @@ public final class KeepEdgesTest {
         }
     }
 
+    /** Behind more entries than are kept: those that went for what is undone are there again. */
+    private static void logOfMoreThanKept() {
+        PowerRails x = Checks.told("rail a source 1 1 0 0 9;");
+        for (int round = 0; round < 25; round++) {
+            String before = Checks.picture(x);
+            x.keep();
+            for (int more = 0; more < 6; more++) {
+                x.ask(0, more % 2 == 1);
+                x.tick(2);
+            }
+            due("new entries", x.log(0, 0) > x.count(3) - 12 ? 1 : 0, 1);
+            for (int more = 0; more < 12; more++) {
+                x.undo();
+            }
+            Checks.same("undone in round " + round, Checks.picture(x), before);
+            for (int more = 0; more < 6; more++) {
+                x.ask(0, more % 2 == 1);
+                x.tick(2);
+            }
+            x.back();
+            Checks.same("back in round " + round, Checks.picture(x), before);
+            x.ask(0, round % 2 == 1);
+            x.tick(2);
+        }
+        due("a full log", x.count(8), 40);
+    }
+
     private static int change(PowerRails x, int k) {
         switch (k % 5) {
             case 0: return x.tick(1);
@@ -333,6 +360,7 @@ public final class KeepEdgesTest {
         ticksTogether();
         allIsUndone();
         whatDoesNotShow();
+        logOfMoreThanKept();
         imageKeepsAll();
         imageKeepsNot();
         inPlaceOfOneAhead();

@@ -261,6 +261,7 @@ public final class TextEdgesTest {
         String ac = A + C + "needs a c;";
         Checks.faulty(ac + "needs a c;", 3, ac.length() + 8);
         Checks.faulty(ac + "needs c a;needs a c;", 3, ac.length() + 18);
+        Checks.faulty(ac + "needs c a;needs c a;", 3, ac.length() + 18);
         PowerRails x = Checks.told(ac + "needs c a;");
         due("both", x.count(1), 2);
         due("a needs c", x.hangs(0, 0), 2);
@@ -370,6 +371,8 @@ public final class TextEdgesTest {
         x.feed(0x20202080, 0, 0, 0, 0);
         due("byte 128", x.text(4), -1);
         due("its place", x.fault(1), 3);
+        Checks.faulty(";".repeat(700), 1, 0);
+        Checks.faulty("wait1;" + ",".repeat(694), 1, 6);
         for (int n = 680; n <= 700; n += 20) {
             x = new PowerRails();
             Checks.feed(x, " ".repeat(n));
@@ -449,6 +452,50 @@ public final class TextEdgesTest {
         Checks.lined(x, "one does", false, 1);
         x.keep();
         due("an image goes with an empty text, too", x.text(0) + x.back(), -1);
+    }
+
+    /** The same, behind texts and runs of each kind: no setting, need, step, load or entry of theirs is left. */
+    private static void nothingIsLeft() {
+        String full = "rail a source 1000 300 16 999 80;rail b a 1000 500 0 50 9;rail c source 5 5 0 0 9;needs b a;"
+            + "needs c a;needs a c;droop 150;filter 2;retry 2 4;fall 90;low 80;budget 500;seed 5;on a;guard a 9;on b;";
+        String[] texts = {"", rails(3), rails(3) + "wait 1;", full.replace("needs a c;", ""), full,
+            "rail a source 1000 999 16 100 80;rail b source 1000 900 0 50 40;rail c b 5 5 5 5 5;on a;on b;on c;"};
+        for (String text : texts) {
+            for (String before : texts) {
+                for (int life : new int[] {0, 1, 2, 3, 4, 5, 9, 16, 20}) {
+                    PowerRails x = new PowerRails();
+                    Checks.tell(x, before);
+                    live(x, 9);
+                    Checks.tell(x, before);
+                    live(x, life);
+                    PowerRails fresh = new PowerRails();
+                    due("the text", Checks.tell(x, text), Checks.tell(fresh, text));
+                    Checks.same("told", Checks.whole(x), Checks.whole(fresh));
+                    for (int k = 0; k < 9; k++) {
+                        due("ask", x.ask(k % 3, k > 6), fresh.ask(k % 3, k > 6));
+                        due("begin", x.begin(), fresh.begin());
+                        due("tick", x.tick(1 + k), fresh.tick(1 + k));
+                        Checks.same("gone on", Checks.picture(x), Checks.picture(fresh));
+                        due("what would go", x.ifOff(k % 3), fresh.ifOff(k % 3));
+                        due("by the seed", x.chance(-1, 9, 99, 0), fresh.chance(-1, 9, 99, 0));
+                    }
+                }
+            }
+        }
+    }
+
+    private static void live(PowerRails x, int ticks) {
+        for (int i = 0; i < 3; i++) {
+            x.ask(i, false);
+        }
+        x.begin();
+        for (int k = 1; k <= ticks; k++) {
+            x.tick(1);
+            x.keep();
+            if (k == 4) {
+                x.ask(1, true);
+            }
+        }
     }
 
     /** "NONE with a FAULT, all else stays". */
@@ -560,6 +607,7 @@ public final class TextEdgesTest {
         textBeyondTheTape();
         firstBytes();
         allAsAtFirst();
+        nothingIsLeft();
         faultyTextChangesNothing();
         fault();
         named();

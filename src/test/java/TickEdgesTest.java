@@ -320,6 +320,32 @@ public final class TickEdgesTest {
         }
     }
 
+    /** The same of one that tripped and is in the ROW, or falls, yet. */
+    private static void askedAsItGoes() {
+        for (int how = 0; how < 4; how++) {
+            boolean inRow = how >= 2;
+            PowerRails x = asked("rail a source 100 100 0 10 5;rail b a 5 5 0 0 9;droop 50;fall 40;filter 2;low 80;retry 3 5;", 0);
+            x.tick(2);
+            x.load(0, 99);
+            x.tick(1);
+            x.ask(1, false);
+            x.tick(2);
+            due("a trip", rail(x, 0, 12), 1);
+            due("b goes first", rail(x, 1, 6), FALLS);
+            Checks.lined(x, "a is behind it", true, 0);
+            if (!inRow) {
+                x.tick(1);
+            }
+            due("where it is", rail(x, 0, 6), inRow ? UP : FALLS);
+            due("untouched it comes again", x.ahead(0, 30, 3) > 0 ? 1 : 0, 1);
+            x.ask(0, how % 2 == 1);
+            x.tick(6);
+            due("off", rail(x, 0, 6), OFF);
+            due("asked, it doesn't", rail(x, 0, 14), -2);
+            due("ever", x.ahead(0, 300, 3), 0);
+        }
+    }
+
     /** "(0) By numbers: one that is to come AGAIN in this TICK": behind all that WAIT; "its RETRIES are one more". */
     private static void comingAgain() {
         PowerRails x = asked("rail p source 10 10 0 0 9;rail a source 200 200 0 10 5;rail b source 100 100 0 10 5;"
@@ -820,6 +846,17 @@ public final class TickEdgesTest {
         due("a, though three came later", rail(x, 0, 12), 1);
         due("none of these", x.count(7), 2);
         Checks.lined(x, "it is behind b", true, 0);
+        // None is left to trip: the sequence runs on.
+        x = asked("rail a source 10 10 0 10 99;rail b source 10 10 0 10 99;budget 20;fall 1;wait 9;", 0, 1);
+        x.tick(1);
+        x.ask(0, true);
+        x.ask(1, true);
+        x.load(0, 99);
+        x.begin();
+        x.tick(1);
+        due("109 are above 20", x.total(), 109);
+        due("no trip", x.count(7), 0);
+        due("it runs", x.sequence(0), 1);
         // By low and by budget in one tick.
         x = asked("rail a source 100 100 0 50 40;rail b source 100 100 0 10 99;low 100;droop 1;budget 58;", 0, 1);
         x.tick(1);
@@ -876,6 +913,7 @@ public final class TickEdgesTest {
         allTwelveUnwound();
         ofOneTick();
         askingEndsRetries();
+        askedAsItGoes();
         comingAgain();
         timesAndHold();
         trippedWhenItLastWent();
